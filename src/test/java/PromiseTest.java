@@ -317,9 +317,9 @@ public final class PromiseTest {
         for (int place : new int[] {-1, 9, MIN, MAX}) {
             checks.index("9: no place " + place, () -> x.sign(0, place, 0));
         }
-        woodIsLooked("9: sign", wood -> x.sign(wood, 0, 0));
         whatIsLooked("9: sign", 6, what -> x.sign(0, 0, what));
         hundreds(1, 24);
+        woodIsLooked("9: sign", wood -> x.sign(wood, 0, 0));
         checks.same("9: the last place of a full wood", 2400, () -> x.sign(1, 46, 2));
         checks.index("9: behind the last place", () -> x.sign(1, 47, 2));
     }
@@ -360,6 +360,9 @@ public final class PromiseTest {
         checks.same("11: up in an empty wood", -1, () -> x.step(0, 0, true));
         checks.same("11: down in an empty wood", -1, () -> x.step(0, 65535, false));
         village(0, 0, 100, 200, 65535);
+        village(1, 7, 8);
+        checks.same("11: up to the next number", 8, () -> x.step(1, 7, true));
+        checks.same("11: down to the next number", 7, () -> x.step(1, 8, false));
         checks.same("11: up from a village", 200, () -> x.step(0, 100, true));
         checks.same("11: down from a village", 0, () -> x.step(0, 100, false));
         checks.same("11: up from between", 200, () -> x.step(0, 101, true));
@@ -527,6 +530,10 @@ public final class PromiseTest {
         fresh();
         village(1, 0, 1, 2, 3, 40000, 40001, 40002, 40003, 40004, 40005, 40006, 40007);
         checks.same("18: the first of the longest paths", 40000, () -> x.advise(1));
+        x.put(0, 10, 1);
+        checks.same("18: one village of the other wood", 10, () -> x.advise(0));
+        x.take(0, 10);
+        checks.same("18: none is left", -1, () -> x.advise(0));
         woodIsLooked("18: advise", wood -> x.advise(wood));
     }
 
