@@ -25,6 +25,10 @@ final class Checks {
         }
     }
 
+    int made() {
+        return passed + failed;
+    }
+
     void index(String what, Call call) {
         same(what, "throws.IndexOutOfBoundsException", call);
     }

@@ -440,7 +440,7 @@ public final class PromiseTest {
         checks.same("14: 1024 and 1023 are far by bits", 1020, () -> x.near(0, 1023));
         fresh();
         village(0, 40, 60);
-        checks.same("14: not the one to which one walks by 38", 40, () -> x.near(0, 38));
+        checks.same("14: 40 is nearer to 38 than 60", 40, () -> x.near(0, 38));
         woodIsLooked("14: near", wood -> x.near(wood, -1));
         nameIsLooked("14: near", name -> x.near(0, name));
         nameIsLooked("14: near in an empty wood", name -> x.near(1, name));
